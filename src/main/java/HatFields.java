@@ -616,7 +616,7 @@ public final class HatFields {
         }
     }
 
-    /** A hat: worn if it has a wearer, else lying if it has a spot, else gone. */
+    /** A hat: worn if it has a wearer, lying if it has a spot, gone if it has neither. */
     private static final class Hat {
         /** The kind that each kind stands under; a hat under itself. */
         private static final int[] ABOVE = {HAT, HAT, HAT, PINNED, STRAW, HAT};
@@ -655,7 +655,7 @@ public final class HatFields {
         }
 
         boolean lies() {
-            return wearer < 0 && spot >= 0;
+            return spot >= 0;
         }
 
         boolean isGone() {

@@ -7,6 +7,7 @@ public final class HostTest {
         shelvesKeepWhatTheyHold();
         taken();
         acts();
+        actsOfAnother();
         parted();
         noAct();
         many();
@@ -193,6 +194,23 @@ public final class HostTest {
         }
         Check.due("41: " + call + ": behind the last", x.trace(bodies.length), HatFields.NONE);
         Check.due("41: trace(-1)", x.trace(-1), HatFields.NONE);
+    }
+
+    /** The hat has number 5, A 3 and x is -100, so that what is shared is not 0. */
+    private static void actsOfAnother() {
+        HatFields x = new HatFields();
+        for (int i = 0; i < 6; i++) {
+            x.hat(0, 3, 0, 0);
+        }
+        x.shelf(1, 0, 5);
+        int[][] due = {{-95, -190, 50, -191}, {-95, -193, 50, -196}, {-285, -570, 50, -573}, {-100, -203, 48, -202},
+            {285, 540, 50, 541}, {-95, -190, 58, -382}};
+        for (int kind = 0; kind < 6; kind++) {
+            x.make(5, kind, 3);
+            for (int act = 0; act < 4; act++) {
+                Check.due("40: act " + act + " of kind " + kind + ", number 5", x.act(1, act, -100), due[kind][act]);
+            }
+        }
     }
 
     /** A is the hat's number, so that shares has nothing to part by. */

@@ -91,6 +91,8 @@ public final class ModelTest {
                 tell(run, random, x, model, random.nextInt(3) != 0);
             } else if (choice == 1) {
                 blowHard(run, random, x, model);
+            } else if (choice == 2) {
+                actAndTrace(run, random, x, model);
             } else {
                 Method m = CALLABLE.get(random.nextInt(CALLABLE.size()));
                 if (!m.getName().equals("plain") || random.nextInt(4) == 0) {
@@ -101,10 +103,22 @@ public final class ModelTest {
     }
 
     private static void blowHard(int run, Random random, HatFields x, Model model) throws Exception {
-        Method wind = HatFields.class.getDeclaredMethod("wind", int.class, int.class, int.class);
         for (int i = 0; i < 4; i++) {
-            compare(run, x, model, wind, new Object[] {random.nextInt(24), random.nextInt(4), random.nextInt(10)});
+            compare(run, x, model, named("wind"), new Object[] {random.nextInt(24), random.nextInt(4), random.nextInt(10)});
         }
+    }
+
+    private static void actAndTrace(int run, Random random, HatFields x, Model model) throws Exception {
+        int shelf = random.nextInt(4);
+        compare(run, x, model, named("shelf"), new Object[] {shelf, 0, random.nextInt(6)});
+        compare(run, x, model, named("act"), new Object[] {shelf, random.nextInt(4), random.nextInt(2001) - 1000});
+        for (int i = 0; i <= 12; i++) {
+            compare(run, x, model, named("trace"), new Object[] {i});
+        }
+    }
+
+    private static Method named(String name) {
+        return CALLABLE.stream().filter(m -> m.getName().equals(name)).findFirst().orElseThrow();
     }
 
     private static Object[] arguments(Random random, Method m) {
@@ -158,16 +172,15 @@ public final class ModelTest {
         if (!right) {
             text = spoilt(random, text);
         }
-        Method feed = HatFields.class.getDeclaredMethod("feed", long.class, int.class);
         for (int at = 0; at < text.length(); at += 8) {
             int n = Math.min(8, text.length() - at);
             long eight = random.nextLong() << 8 * (n - 1) << 8;
             for (int i = 0; i < n; i++) {
                 eight |= (long) (text.charAt(at + i) & 255) << 8 * i;
             }
-            compare(run, x, model, feed, new Object[] {eight, n});
+            compare(run, x, model, named("feed"), new Object[] {eight, n});
         }
-        compare(run, x, model, HatFields.class.getDeclaredMethod("plain"), new Object[0]);
+        compare(run, x, model, named("plain"), new Object[0]);
     }
 
     private static String text(Random random) {

@@ -109,6 +109,12 @@ public final class TextTest {
         fault("hat 1 worth 1 on 1", 18);
         fault("hat 1 worth 1 on 1,", 18);
         fault("hut 1 worth 1 on 1;", 0);
+        fault("bat 1 worth 1 on 1;", 0);
+        fault("had 1 worth 1 on 1;", 0);
+        fault("hatz 1 worth 1 on 1;", 0);
+        fault("ahat 1 worth 1 on 1;", 0);
+        fault("hat 1 worth 1 onz 1;", 14);
+        fault("wind 1 rest 1;", 7);
         fault("wind 24 east 1;", 5);
         fault("wind 1 up 1;", 7);
         fault("wind 1 1;", 7);
