@@ -14,6 +14,7 @@ public final class HatFields {
     private static final int HOLDS = 0, FLIES = 1, SHARES = 2, TELLS = 3, ACTS = 4;
     private static final int TAPE_SIZE = 200, ROWS = 20, ROW_PARTS = 3, SHEETS = 4, SHEET_SIZE = 40, SHELVES = 4;
     private static final int BYTES = 0, SHORTS = 1, SORTS = 4;
+    private static final int OTHER_WIND = 0, OTHER_START = 1, TIED_HAT = 2;
 
     private final Plain plain = new Plain();
     private final Plain trial = new Plain();
@@ -280,38 +281,14 @@ public final class HatFields {
         if (plain.now >= LAST_NOW) {
             return STATE;
         }
-        int best = 0;
-        int most = -1;
-        for (int wind = 0; wind < 10 * DIRECTIONS; wind++) {
-            trial.copyFrom(plain);
-            trial.setWind(plain.hour(), wind / 10, wind % 10);
-            trial.passHours(n);
-            int owned = trial.ownedBy(person);
-            if (owned > most) {
-                most = owned;
-                best = wind;
-            }
-        }
-        return best;
+        return bestFor(person, n, OTHER_WIND, 10 * DIRECTIONS);
     }
 
     public int start(int person, int n) {
         if (!isPerson(person) || !isPlanLength(n)) {
             return BAD;
         }
-        int best = 0;
-        int most = -1;
-        for (int place = 0; place < PLACES; place++) {
-            trial.copyFrom(plain);
-            trial.people[person].place = place;
-            trial.passHours(n);
-            int owned = trial.ownedBy(person);
-            if (owned > most) {
-                most = owned;
-                best = place;
-            }
-        }
-        return best;
+        return bestFor(person, n, OTHER_START, PLACES);
     }
 
     public int tie(int person, int n) {
@@ -321,19 +298,7 @@ public final class HatFields {
         if (plain.hatCount == 0) {
             return NONE;
         }
-        int best = 0;
-        int most = -1;
-        for (int h = 0; h < plain.hatCount; h++) {
-            trial.copyFrom(plain);
-            trial.hats[h].become(TIED, AS - 1);
-            trial.passHours(n);
-            int owned = trial.ownedBy(person);
-            if (owned > most) {
-                most = owned;
-                best = h;
-            }
-        }
-        return best;
+        return bestFor(person, n, TIED_HAT, plain.hatCount);
     }
 
     public int calm() {
@@ -590,9 +555,38 @@ public final class HatFields {
             && rows[ROW_PARTS * i + 2] == trial.allGone();
     }
 
+    // ---- trials
+
     private void tryHours(int n) {
         trial.copyFrom(plain);
         trial.passHours(n);
+    }
+
+    /** Of the choices for one change the least with which a person owns most behind n hours. */
+    private int bestFor(int person, int n, int change, int choices) {
+        int best = 0;
+        int most = -1;
+        for (int choice = 0; choice < choices; choice++) {
+            trial.copyFrom(plain);
+            changeTrial(change, person, choice);
+            trial.passHours(n);
+            int owned = trial.ownedBy(person);
+            if (owned > most) {
+                most = owned;
+                best = choice;
+            }
+        }
+        return best;
+    }
+
+    private void changeTrial(int change, int person, int choice) {
+        if (change == OTHER_WIND) {
+            trial.setWind(trial.hour(), choice / 10, choice % 10);
+        } else if (change == OTHER_START) {
+            trial.people[person].place = choice;
+        } else if (change == TIED_HAT) {
+            trial.hats[choice].become(TIED, AS - 1);
+        }
     }
 
     /** One of the people: where, and how many steps an hour at most. */

@@ -105,7 +105,7 @@ public final class TrialTest {
         HatFields x = Check.told("person 12 speed 1;person 0 speed 0;straw 0 worth 9 on 14;hat 0 worth 5 on 2;");
         Check.due("24: the wind that brings the straw hat", x.wish(0, 1), 31);
         Check.due("24: without one it goes as well", x.wish(0, 12), 0);
-        Check.due("24: nothing to win", x.wish(1, 1), 36);
+        Check.due("24: for one who cannot run", x.wish(1, 1), 36);
         Check.due("24: n 0", x.wish(0, 0), HatFields.BAD);
         Check.due("24: n 13", x.wish(0, 13), HatFields.BAD);
         Check.due("24: person 2", x.wish(2, 1), HatFields.BAD);
