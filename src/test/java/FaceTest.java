@@ -52,6 +52,11 @@ public final class FaceTest {
         for (Method m : HatFields.class.getDeclaredMethods()) {
             holds(m + " has a name of its own", !Modifier.isPrivate(m.getModifiers()) || !names.contains(m.getName()));
         }
+        for (Class<?> c : HatFields.class.getDeclaredClasses()) {
+            for (Method m : c.getDeclaredMethods()) {
+                holds(m + " has a name of its own", !names.contains(m.getName()));
+            }
+        }
         for (Field f : HatFields.class.getDeclaredFields()) {
             boolean constant = Set.of("BAD", "FULL", "NONE", "STATE").contains(f.getName());
             holds(f + " is private or of the face", constant ? Modifier.isPublic(f.getModifiers()) : Modifier.isPrivate(f.getModifiers()));

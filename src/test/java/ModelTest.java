@@ -15,6 +15,9 @@ public final class ModelTest {
     private static final List<Method> CALLABLE = new ArrayList<>();
     private static final Map<String, Method> OF_MODEL = new HashMap<>();
 
+    /** How many calls of the run have been made; behind CALLS every answer is free. */
+    private static int made;
+
     /** For each argument of a call the first number that is too high for it. */
     private static final Map<String, int[]> BOUNDS = new HashMap<>();
 
@@ -82,10 +85,11 @@ public final class ModelTest {
         Random random = new Random(run);
         HatFields x = new HatFields();
         Model model = new Model();
+        made = 0;
         if (random.nextInt(4) != 0) {
             tell(run, random, x, model, true);
         }
-        for (int call = 0; call < CALLS; call++) {
+        while (made < CALLS) {
             int choice = random.nextInt(60);
             if (choice == 0) {
                 tell(run, random, x, model, random.nextInt(3) != 0);
@@ -149,6 +153,10 @@ public final class ModelTest {
     }
 
     private static void compare(int run, HatFields x, Model model, Method m, Object[] arguments) throws Exception {
+        if (made >= CALLS) {
+            return;
+        }
+        made++;
         int due;
         try {
             due = (Integer) OF_MODEL.get(m.getName()).invoke(model, arguments);
